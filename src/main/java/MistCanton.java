@@ -438,7 +438,7 @@ public final class MistCanton {
         if (!isEvent(event)) {
             return NONE;
         }
-        // The canton itself is told otherwise for each try, and as it was at the end.
+        // The canton itself is told otherwise for a while, and as it was at the end.
         int kept = told.weekdays[event];
         int most = NONE;
         int best = 0;
@@ -1327,14 +1327,18 @@ public final class MistCanton {
         private int drawing(int person, int weekday) {
             int bits = 0;
             for (int e = 0; e < events; e++) {
-                boolean isDay = weekday == weekdays[e]
-                        || kinds[person] == WIDOW && weekday == (weekdays[e] + 1) % WEEK_DAYS;
-                boolean isFor = kinds[person] != THIEF || weekdays[e] == THIEVES_DAY;
-                if (isDay && isFor && hasBit(guests[e], person)) {
+                if (hasBit(guests[e], person) && isDayOf(kinds[person], weekdays[e], weekday)) {
                     bits |= 1 << e;
                 }
             }
             return bits;
+        }
+
+        private static boolean isDayOf(int kind, int on, int weekday) {
+            if (kind == THIEF && on != THIEVES_DAY) {
+                return false;
+            }
+            return weekday == on || kind == WIDOW && weekday == (on + 1) % WEEK_DAYS;
         }
 
         private boolean goesOut(int person, State state, boolean white) {

@@ -61,6 +61,16 @@ public final class ReadingTest {
         CHECK.due("the first letter is the thousandth sign", x.canton(), 1 + 16 * 999);
         Check.feed(x, " ".repeat(1000) + "!");
         CHECK.due("what was left out is not read", x.canton(), 0);
+        Check.feed(x, "snow 1" + " ".repeat(990) + "1234");
+        CHECK.due("a number up to the end", x.canton(), 4 + 16 * 996);
+        Check.feed(x, "snow 12;");
+        CHECK.due("a longer text", x.canton(), 0);
+        Check.feed(x, "snow 1");
+        CHECK.due("what was there before is not read", x.canton(), 1 + 16 * 6);
+        Check.feed(x, "day;day");
+        CHECK.due("a longer word", x.week(), 1 + 16 * 7);
+        Check.feed(x, "day;da");
+        CHECK.due("a shorter one", x.week(), 1 + 16 * 4);
         Check.feed(x, " ".repeat(977) + ANN);
         CHECK.due("a line up to the end", x.canton(), 0);
         CHECK.due("is read", x.count(0), 1);
@@ -166,6 +176,7 @@ public final class ReadingTest {
         wrong(1, "snow 1 |day;");
         wrong(1, "snow 1 |12345;");
         wrong(4, "snow |28;");
+        wrong(4, "snow 0 |28;");
         wrong(3, "snow 5 |5;");
         wrong(3, "snow 5 |0005;");
         wrong(5, "snow 1 2 3 4 5 6 7 8 |9;");
