@@ -863,6 +863,7 @@ public final class MistCanton {
         static final int WORD_MOST = 8;
         static final int DIGITS_MOST = 4;
         static final String SIGNS = "()<=+-*;";
+        // A blank ends each word, the last one too: isName compares where it finds one.
         static final String NO_NAMES =
                 "person lot event on needs comes snow goes day ask plain widow thief gaoler not and or ";
 
@@ -933,11 +934,14 @@ public final class MistCanton {
         }
 
         boolean isWord(String text) {
+            if (kind != WORD) {
+                return false;
+            }
             long packed = 0;
             for (int i = 0; i < text.length(); i++) {
                 packed = packed << 8 | text.charAt(i);
             }
-            return kind == WORD && word == packed;
+            return word == packed;
         }
 
         boolean isSign(char sign) {

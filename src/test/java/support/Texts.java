@@ -12,6 +12,7 @@ final class Texts {
             "abcdefghi", "ann", "mass", "zzz", "!", "A", "5ann", "ann5", "plain", "off", "week", ""};
 
     private final Random draws;
+    private List<String> persons = List.of();
 
     Texts(Random draws) {
         this.draws = draws;
@@ -21,8 +22,9 @@ final class Texts {
         return draws.nextInt(m);
     }
 
+    /** Most often the name of a PERSON of the canton that was made last. */
     private String name() {
-        return NAMES[below(NAMES.length)];
+        return persons.isEmpty() || below(300) == 0 ? NAMES[below(NAMES.length)] : persons.get(below(persons.size()));
     }
 
     String expression(int depth) {
@@ -51,7 +53,7 @@ final class Texts {
     }
 
     private String part(int depth) {
-        int kind = below(depth > 4 ? 6 : 9);
+        int kind = below(depth > 3 && below(60) > 0 ? 6 : 9);
         switch (kind) {
             case 0:
                 return "off";
@@ -76,21 +78,22 @@ final class Texts {
     String canton() {
         List<String> names = new ArrayList<>(List.of(NAMES));
         java.util.Collections.shuffle(names, draws);
-        int persons = below(8) == 0 ? below(7) : 3 + below(4);
+        int people = below(8) == 0 ? below(7) : 3 + below(4);
+        persons = names.subList(0, people);
         int events = below(8) == 0 ? below(6) : 1 + below(5);
         List<String> lines = new ArrayList<>();
-        for (int p = 0; p < persons; p++) {
+        for (int p = 0; p < people; p++) {
             lines.add("person " + names.get(p) + " " + KINDS[below(KINDS.length)] + " lot " + below(5));
         }
         for (int e = 0; e < events; e++) {
             int on = below(3) == 0 ? 1 : below(7);
-            lines.add("event " + names.get(persons + e) + " on " + on + " needs " + (1 + below(below(3) == 0 ? 6 : 3)));
+            lines.add("event " + names.get(people + e) + " on " + on + " needs " + (1 + below(below(3) == 0 ? 6 : 3)));
         }
         int often = 1 + below(4);
-        for (int p = 0; p < persons; p++) {
+        for (int p = 0; p < people; p++) {
             for (int e = 0; e < events; e++) {
                 if (below(5) < often) {
-                    lines.add("comes " + names.get(p) + " " + names.get(persons + e));
+                    lines.add("comes " + names.get(p) + " " + names.get(people + e));
                 }
             }
         }
