@@ -18,4 +18,29 @@ final class Cantons {
 
     /** Two who are right only where it snows, or by new lots. */
     static final String TWO = "person a plain lot 2;person b plain lot 3;event e on 0 needs 2;comes a e;comes b e;";
+
+    /** As many as there can be: a to f, all right, who all come to p to t, on day 1 to 5 of each week. */
+    static final String FULL = of(6, 5);
+
+    /** So many right ones (a, b, ..) who all come to so many events (p, q, ..) on the days 1, 2, .. of the week. */
+    static String of(int persons, int events) {
+        StringBuilder text = new StringBuilder();
+        for (int p = 0; p < persons; p++) {
+            text.append("person ").append((char) ('a' + p)).append(" plain lot 2;");
+        }
+        for (int e = 0; e < events; e++) {
+            text.append("event ").append((char) ('p' + e)).append(" on ").append(e + 1).append(" needs 1;");
+        }
+        for (int p = 0; p < persons; p++) {
+            for (int e = 0; e < events; e++) {
+                text.append("comes ").append((char) ('a' + p)).append(' ').append((char) ('p' + e)).append(';');
+            }
+        }
+        return text.toString();
+    }
+
+    /** One who is right and who comes to e, an event on such a day of the week, by such a law. */
+    static String one(int weekday, String law) {
+        return "person p plain lot 2;event e on " + weekday + " needs 1;comes p e;goes " + law + ";";
+    }
 }
