@@ -531,6 +531,14 @@ final class Model {
 
     // ---- the calls
 
+    /** A text, fed to the tape and read. */
+    String read(String text, String method) {
+        for (long[] three : Check.feeds(text)) {
+            call("feed", three);
+        }
+        return call(method, new long[0]);
+    }
+
     /** What a call answers, as a text; booleans are numbers, 1 and 0. */
     String call(String method, long[] a) {
         Integer n = callFirst(method, a);
