@@ -32,17 +32,20 @@ public final class HandEdgesTest {
         for (int lot = 0; lot <= 4; lot++) {
             five += "person " + "abcde".charAt(lot) + " " + (lot % 2 == 0 ? "plain" : "widow") + " lot " + lot + ";";
         }
-        MistCanton x = Check.canton(five + "person f gaoler lot 0;snow 0 27;");
+        String canton = five + "person f gaoler lot 0;snow 0 27;";
+        MistCanton x = Check.canton(canton);
+        MistCanton y = Check.canton(canton);
         String[] days = {"0123456", "5601234", "6012345", "0123456", "1234560", "2345601"};
         for (int d = 0; d <= 57; d++) {
             boolean white = d % 28 == 0 || d % 28 == 27;
-            CHECK.due("snow on day " + d, x.count(4), white ? 1 : 0);
-            CHECK.due("day of the week of " + d, x.count(3), days[0].charAt(d % 7) - '0');
+            CHECK.due("snow on day " + d, y.count(4), white ? 1 : 0);
+            CHECK.due("day of the week of " + d, y.count(3), days[0].charAt(d % 7) - '0');
             for (int p = 0; p < 6; p++) {
                 int row = white || p == 5 ? 0 : p + 1;
                 CHECK.due("day " + d + " to " + p, x.person(p, 2), days[row].charAt(d % 7) - '0');
             }
             x.day();
+            y.day();
         }
         x.lot(5, 4);
         CHECK.due("a gaoler's lot", x.person(5, 1), 4);

