@@ -1009,7 +1009,7 @@ public final class MistCanton {
         static final int PLUS = -10;
         static final int MINUS = -11;
         static final int TIMES = -12;
-        // Six levels, each with at most four values that wait: 25 at once.
+        // Five levels, each with at most four values that wait, and the one at hand: 21 at once.
         static final int STACK_MOST = 32;
 
         // What is not below 0 is a NUMBER, what is below is one of the above.
