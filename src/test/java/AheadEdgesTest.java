@@ -135,6 +135,9 @@ public final class AheadEdgesTest {
         // Of lots 2, 3 and 4 there are two at once on day 5 and on day 6 by snow, and never on another day.
         String snow = "person a plain lot 2;person b plain lot 3;person c plain lot 4;event e on 0 needs 2;comes a e;comes b e;"
                 + "comes c e;snow %s;";
+        // On a day 7, if there were one, the widow alone would come, and go on so.
+        CHECK.due("no day of the week but 0 to 6", Check.canton("person a widow lot 2;person b plain lot 2;"
+                + "event e on 3 needs 1;comes a e;comes b e;goes met=0;").move(0), 0);
         CHECK.due("two of day 6, one of day 5", Check.canton(String.format(snow, "5 6 13")).move(0), 6);
         CHECK.due("one of each", Check.canton(String.format(snow, "5 6")).move(0), 5);
         CHECK.due("by what is met", Check.canton("person a plain lot 2;person b plain lot 2;event e on 0 needs 1;"

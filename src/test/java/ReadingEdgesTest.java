@@ -154,6 +154,73 @@ public final class ReadingEdgesTest {
             CHECK.due("snow twice " + n, fault("snow " + n + " " + n + ";"),
                     n <= 27 ? 3 + 16 * (n < 10 ? 7 : 8) : 4 + 16 * 5);
         }
+        wrong(4, "snow 0 |28;");
+        wrong(4, "snow 1 |29;");
+        wrong(4, "snow 3 27 |55;");
+        wrong(4, "snow 3 |9999;");
+        wrong(4, "snow 1 2 3 4 5 6 7 8 |36;");
+    }
+
+    /** What is none, behind each word that could be taken for another one of these. */
+    private static void none() {
+        CHECK.at("what is none, behind a word");
+        String told = "person ann plain lot 2;event mass on 1 needs 1;";
+        for (String none : new String[] {"12345", "abcdefghi", "!", "A"}) {
+            wrong(1, told + "comes ann |" + none + ";");
+            wrong(1, told + "comes |" + none + " mass;");
+            wrong(1, "person |" + none + " plain lot 2;");
+            wrong(1, "person plainx |" + none + " lot 2;");
+            wrong(1, "person ann plain |" + none + " 2;");
+            wrong(1, "event e on |" + none);
+            wrong(1, "event e |" + none);
+            wrong(1, "event e on 1 |" + none);
+            wrong(1, "goes not |" + none + " 1;");
+            wrong(1, "goes off |" + none + " 1;");
+            wrong(1, "goes 1 and |" + none + ";");
+            wrong(1, "goes 1 and 1 |" + none + " 1;");
+            wrong(1, "snow 1 |" + none + ";");
+            wrong(1, told + "|" + none);
+            week(1, "day |" + none);
+            week(1, "day;|" + none);
+            week(1, "ask |" + none + ";");
+            week(1, "lot ann |" + none + ";");
+        }
+    }
+
+    /** Signs of a longer text that was read before are none of the shorter one. */
+    private static void shorter(String before, String text, int due) {
+        MistCanton x = new MistCanton();
+        Check.feed(x, before);
+        x.canton();
+        Check.feed(x, text);
+        CHECK.due("canton of '" + text + "' behind '" + before + "'", x.canton(), due);
+        Check.feed(x, before);
+        x.week();
+        Check.feed(x, text);
+        CHECK.due("week of '" + text + "' behind '" + before + "'", x.week(), due == 0 ? 0 : 1);
+    }
+
+    private static void shorter() {
+        CHECK.at("a shorter text");
+        shorter("snow 12345;", "snow 1", 1 + 16 * 6);
+        shorter("snow 1 2 3;", "snow 1 2", 1 + 16 * 8);
+        shorter("snow 1;;", "snow 1", 1 + 16 * 6);
+        shorter("personss", "person", 1 + 16 * 6);
+        shorter("person abcdefgh", "person abcdefg", 1 + 16 * 14);
+        shorter("goes 1 + 1;", "goes 1 ", 1 + 16 * 7);
+        shorter("person a plain lot 2;", "", 0);
+        shorter("person a plain lot 2;", " ", 0);
+        for (String end : new String[] {"a", "1", ";", " ", "\n", "!"}) {
+            MistCanton x = blanks(999);
+            Check.feed(x, end);
+            CHECK.due("1,000 signs, at last '" + end + "'", x.canton(), end.isBlank() ? 0 : 1 + 16 * 999);
+        }
+        MistCanton x = blanks(994);
+        Check.feed(x, "goes 1");
+        CHECK.due("a number at the end of 1,000", x.canton(), 1 + 16 * 1000);
+        x = blanks(994);
+        Check.feed(x, "person");
+        CHECK.due("a word at the end of 1,000", x.canton(), 1 + 16 * 1000);
     }
 
     private static void names() {
@@ -388,6 +455,8 @@ public final class ReadingEdgesTest {
         thousand();
         tokens();
         numbers();
+        none();
+        shorter();
         names();
         most();
         once();

@@ -22,11 +22,23 @@ public final class Mutants {
     record Mutant(int line, String text) {
     }
 
+    private static String changed(String found, String by) {
+        switch (by) {
+            case "+1":
+            case "-1":
+                return "(" + found + " " + by.charAt(0) + " 1)";
+            case "SWAP":
+                return found.replaceAll("(.+) : (.+)", "$2 : $1");
+            default:
+                return by;
+        }
+    }
+
     private static void replace(List<Mutant> all, int line, String code, String pattern, String... by) {
         Matcher m = Pattern.compile(pattern).matcher(code);
         while (m.find()) {
             for (String other : by) {
-                String text = other.equals("+1") || other.equals("-1") ? "(" + m.group() + " " + other.charAt(0) + " 1)" : other;
+                String text = changed(m.group(), other);
                 all.add(new Mutant(line, code.substring(0, m.start()) + text + code.substring(m.end())));
             }
         }
@@ -53,6 +65,16 @@ public final class Mutants {
             replace(all, i, code, " \\|\\| ", " && ");
             replace(all, i, code, " \\+ ", " - ");
             replace(all, i, code, " - ", " + ");
+            replace(all, i, code, " & ", " | ");
+            replace(all, i, code, " \\| ", " & ");
+            replace(all, i, code, " [|&+-]= ", " = ");
+            replace(all, i, code, " << ", " >> ");
+            replace(all, i, code, "~", "");
+            replace(all, i, code, "(?<=[(& ])!(?=[a-z])", "");
+            replace(all, i, code, "\\bMath.max\\b", "Math.min");
+            replace(all, i, code, "\\bMath.min\\b", "Math.max");
+            replace(all, i, code, "(?<=if \\().*(?=\\) \\{$)", "true", "false");
+            replace(all, i, code, "(?<= \\? )[^?:]+ : [^?:;]+(?=;)", "SWAP");
             if (code.matches(" +[\\w.\\[\\]]+ [|&+-]?= .*;| +\\w+(\\.\\w+)*\\(.*\\);| +[\\w.\\[\\]]+(\\+\\+|--);")) {
                 all.add(new Mutant(i, ";"));
             }
